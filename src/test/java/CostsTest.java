@@ -7,6 +7,8 @@ final class CostsTest {
         payBeyondTheLimits();
         bookDivides();
         bookByMeters();
+        leastUseAndLeastRest();
+        bookOnEveryPlace();
         bookWithItsFund();
         bookRefuses();
         bookBeyondTheLimits();
@@ -108,6 +110,33 @@ final class CostsTest {
         Check.same("undo gives the use back", x.unit(0, 5), 99969);
         x.book(0, 0, 0, 5, false);
         Check.same("other kinds bill no meters", x.unit(0, 5), 99969);
+    }
+
+    private static void leastUseAndLeastRest() {
+        CondoLedger x = Check.withShares(1, 9);
+        x.fund(0, 9);
+        x.read(0, 1);
+        Check.same("its fund leaves a cent", x.book(4, 0, 0, 10, true), 9);
+        Check.parts("a use of 1 gets the rest of a cent", x, 0, 1, 0);
+        Check.same("a rest of a cent bills the meters", x.unit(0, 5), 0);
+        x.read(1, 3);
+        x.book(4, 0, 1, 1, false);
+        Check.parts("a billed reading is no use", x, 1, 0, 1);
+    }
+
+    private static void bookOnEveryPlace() {
+        for (int place = 0; place < 9; place++) {
+            CondoLedger x = new CondoLedger();
+            x.addUnit(place / 3, place % 3, 10, 0);
+            x.addUnit((place / 3 + 1) % 3, place % 3, 10, 0);
+            x.addUnit(place / 3, (place % 3 + 1) % 3, 10, 0);
+            x.book(2, place, 0, 60, false);
+            Check.parts("stair " + place, x, 0, 60, 0, 0);
+            x.book(1, place / 3, 0, 60, false);
+            Check.parts("house " + place / 3, x, 1, 30, 0, 30);
+            Check.same("wouldPay on stair " + place, x.wouldPay(2, place, 7, 0), 7);
+            Check.same("move for stair " + place, x.move(2, place, 0, 7), 0);
+        }
     }
 
     private static void bookWithItsFund() {

@@ -250,6 +250,9 @@ final class MotionsTest {
         x.vote(0, 2, 1);
         Check.same("none is lacking", x.lacking(0), 0);
         Check.same("no vote comes of it", x.voted(0, 3), 0);
+        x.vote(0, 0, 0);
+        Check.same("none is lacking though the lowest is silent", x.lacking(0), 0);
+        x.vote(0, 0, -1);
         x.set(1, 100);
         Check.thrown("one against", Check.NO_ELEMENT, () -> x.lacking(0));
         x.close(0);

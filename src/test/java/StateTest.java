@@ -7,6 +7,7 @@ final class StateTest {
         undoOfEachChange();
         saveAndRestore();
         refusedCallsAreNoChanges();
+        fullLedger();
         Check.end();
     }
 
@@ -89,7 +90,7 @@ final class StateTest {
                 Check.report("change " + i + " leaves no mark");
             }
             int left = x.undo();
-            Check.same("changes behind undo of change " + i, left, i == 0 ? 4 : 4);
+            Check.same("changes behind undo of change " + i, left, 4);
             Check.same("the ledger behind undo of change " + i, picture(x), before);
         }
         Check.same("the quota", x.set(1, 50), 50);
@@ -98,6 +99,63 @@ final class StateTest {
     private static void bookText(CondoLedger x) {
         Check.write(x, "m:0=0.70f");
         x.bookAll();
+    }
+
+    /** With 12 units, 20 costs and 8 motions; each undo and restore must bring all of them back. */
+    private static void fullLedger() {
+        CondoLedger x = new CondoLedger();
+        for (int unit = 0; unit < 12; unit++) {
+            x.addUnit(unit / 6, unit % 3, 10 + unit, unit % 8);
+        }
+        for (int cost = 0; cost < 20; cost++) {
+            x.book(cost % 5 < 3 ? 0 : cost % 5, 0, 0, 1000 + cost, false);
+        }
+        for (int motion = 0; motion < 8; motion++) {
+            x.move(0, 0, motion % 5, 500 + motion);
+        }
+        for (int motion = 0; motion < 8; motion++) {
+            x.vote(motion, motion + 4, motion % 2 == 0 ? 1 : -1);
+        }
+        x.read(11, 5);
+        x.pay(11, 3);
+        Check.same("the debtor of 12 units", x.debtor(), 11);
+        Check.same("the shares of the other house", x.shares(1, -1), 16 + 17 + 18 + 19 + 20 + 21);
+        Check.same("owned by two units", x.owned(3), x.unit(3, 6) + x.unit(11, 6));
+        // 14 of 186 shares vote for it; units 0 to 3 and 5 to 7 bring it to 108, units up to 6 only to 91.
+        Check.same("lacking of 12 units", x.lacking(0), 7);
+        Check.thrown("lacking of 12 units", Check.NO_ELEMENT, () -> allAgainst(x));
+        Check.same("the last one's part equally", x.wouldPay(3, 0, 12, 11), 1);
+        Check.same("only the last one has use", x.wouldPay(4, 0, 100, 11), 70 + 3);
+        String before = picture(x);
+        x.save();
+        x.vote(7, 11, 0);
+        x.vote(3, 2, 1);
+        x.set(1, 0);
+        x.close(6);
+        x.close(7);
+        for (int left = 4; left >= 0; left--) {
+            Check.same("undo", x.undo(), left);
+        }
+        Check.same("the ledger behind undo", picture(x), before);
+        x.book(4, 0, 0, 99, false);
+        x.close(0);
+        x.close(7);
+        x.pay(11, 7);
+        x.restore();
+        Check.same("the ledger behind restore", picture(x), before);
+    }
+
+    /** Behind 13 further calls, with all units against motion 1 but those that are silent. */
+    private static void allAgainst(CondoLedger x) {
+        x.save();
+        for (int unit = 0; unit < 12; unit++) {
+            x.vote(1, unit, unit < 11 ? -1 : 0);
+        }
+        try {
+            x.lacking(1);
+        } finally {
+            x.restore();
+        }
     }
 
     /** What the calls tell of the ledger, but for settings. */
@@ -114,9 +172,20 @@ final class StateTest {
         for (int purpose = 0; purpose < 5; purpose++) {
             told.append(x.balance(purpose)).append(' ');
         }
+        for (int cost = 0; cost < x.account(3); cost++) {
+            for (int what = 0; what <= 5; what++) {
+                told.append(x.cost(cost, what)).append(' ');
+            }
+            for (int unit = 0; unit < x.account(0); unit++) {
+                told.append(x.part(cost, unit)).append(' ');
+            }
+        }
         for (int motion = 0; motion < x.account(4); motion++) {
             for (int what = 0; what <= 9; what++) {
                 told.append(x.motion(motion, what)).append(' ');
+            }
+            for (int unit = 0; unit < x.account(0); unit++) {
+                told.append(x.voted(motion, unit)).append(' ');
             }
         }
         return told.toString();

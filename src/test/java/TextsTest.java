@@ -5,6 +5,8 @@ final class TextsTest {
         bookAll();
         kinds();
         faults();
+        faultsInFullBuffers();
+        noSignsOfEarlierTexts();
         bufferIsEmptied();
         allOrNone();
         undoOfTexts();
@@ -61,6 +63,19 @@ final class TextsTest {
                 Check.same("cost(" + cost + ", " + what + ")", x.cost(cost, what), due[cost][what]);
             }
         }
+        everyStair();
+    }
+
+    private static void everyStair() {
+        for (int place = 0; place < 9; place++) {
+            CondoLedger x = new CondoLedger();
+            x.addUnit(place / 3, place % 3, 1, 0);
+            String text = "s" + place / 3 + place % 3 + ":2=0.30;h" + place / 3 + ":1=0.40";
+            Check.write(x, text);
+            Check.same(text, x.bookAll(), 2);
+            Check.same(text + ": its place", x.cost(0, 1), place);
+            Check.same(text + ": its house", x.cost(1, 1), place / 3);
+        }
     }
 
     private static void faults() {
@@ -81,6 +96,9 @@ final class TextsTest {
         fault("s23:0=1.00", 2);
         fault("s2:0=1.00", 2);
         fault("s222", 3);
+        fault("s:0=1.00", 1);
+        fault("s0:0=1.00", 2);
+        fault("a:=1.00", 2);
         fault("a:", 2);
         fault("a:5=1.00", 2);
         fault("a:4", 3);
@@ -108,6 +126,7 @@ final class TextsTest {
         fault("a:4=1.00;;", 9);
         fault("a:4=1.00;x:4=1.00", 9);
         fault("a:4=1.00f;h9:0=1.00", 11);
+        signsBesideTheDigits();
         fault(" a:4=1.00", 0);
         fault("a:4=1.00 ", 8);
         fault("a:4=1.00" + (char) 0, 8);
@@ -123,6 +142,23 @@ final class TextsTest {
         }
     }
 
+    /** "/" and ":" stand right below "0" and right above "9". */
+    private static void signsBesideTheDigits() {
+        fault("h/:0=1.00", 1);
+        fault("s/0:0=1.00", 1);
+        fault("s0/:0=1.00", 2);
+        fault("a:/=1.00", 2);
+        fault("a::=1.00", 2);
+        fault("a:0=/.00", 4);
+        fault("a:0=:.00", 4);
+        fault("a:0=1/.00", 5);
+        fault("a:0=1:.00", 5);
+        fault("a:0=1./0", 6);
+        fault("a:0=1.:0", 6);
+        fault("a:0=1.0/", 7);
+        fault("a:0=1.0:", 7);
+    }
+
     private static void fault(String text, int position) {
         CondoLedger x = Check.withShares(1);
         Check.write(x, text);
@@ -131,6 +167,35 @@ final class TextsTest {
         Check.same(text, x.faultPosition(), position);
         Check.same(text + ": costs", x.account(3), 0);
         Check.thrown(text + ": no reason", Check.NO_ELEMENT, x::refusal);
+    }
+
+    private static void faultsInFullBuffers() {
+        String five = "a:0=1000.00f;a:0=1000.00;a:0=1000.00f;a:0=100.00;";
+        fault(five + "a:0=12345.6", 60);
+        fault(five + "s00:0=1.00;", 60);
+        fault(five + "a:0=100.00x", 59);
+        fault(five + "a:0=1.00f;a", 60);
+        fault(five + "a:0=1.00;s0", 60);
+        CondoLedger x = Check.withShares(1);
+        Check.write(x, five + "a:0=100.00f");
+        Check.same("a full buffer", x.bookAll(), 5);
+        Check.same("its last cost", x.cost(4, 3), 10000);
+    }
+
+    private static void noSignsOfEarlierTexts() {
+        CondoLedger x = Check.withShares(1);
+        Check.write(x, "a:0=12.34f;a:1=5.00");
+        Check.same("a text", x.bookAll(), 2);
+        int[] faultsByLength = {0, 1, 2, 3, 4, 5, 6, 7, 8};
+        for (int length : faultsByLength) {
+            Check.write(x, "a:0=12.34f".substring(0, length));
+            Check.thrown("a shorter text", Check.ILLEGAL_ARGUMENT, x::bookAll);
+            Check.same("the end of a shorter text", x.faultPosition(), length);
+        }
+        x.fund(0, 2000);
+        Check.write(x, "a:0=12.34");
+        Check.same("a text without f", x.bookAll(), 1);
+        Check.same("its fund pays nothing", x.balance(0), 2000);
     }
 
     private static void bufferIsEmptied() {
