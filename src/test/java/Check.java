@@ -7,6 +7,7 @@ final class Check {
     static final Class<java.util.NoSuchElementException> NO_ELEMENT = java.util.NoSuchElementException.class;
 
     private static int wrong = 0;
+    private static String test = "";
 
     private Check() {
     }
@@ -45,9 +46,14 @@ final class Check {
         same("refusal() behind " + what, ledger.refusal(), reason);
     }
 
+    /** Faults that are reported from here on bear the name of this test. */
+    static void begin(String name) {
+        test = name + ": ";
+    }
+
     static void report(String fault) {
         wrong++;
-        System.out.println(fault);
+        System.out.println(test + fault);
     }
 
     static void end() {
