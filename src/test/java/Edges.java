@@ -23,6 +23,9 @@ abstract class Edges {
     /** 12 units, 20 costs and 8 motions. */
     static final Scene FULL = full();
 
+    /** A unit of one share on each stair, unit n on the place n. */
+    static final Scene NINE_STAIRS = nineStairs();
+
     /** Unit 0 has paid up to 9 cents below the greatest account; unit 1 has paid nothing. */
     static final Scene ALMOST_RICHEST = withShares(1, 1).times(10, "pay", 0, MOST);
 
@@ -93,6 +96,14 @@ abstract class Edges {
             scene = scene.then("move", 0, 0, motion % 5, 500 + motion).then("vote", motion, motion + 4, 1);
         }
         return scene.then("close", 6).then("save").then("read", 11, 9).then("pay", 3, 77).then("close", 7);
+    }
+
+    private static Scene nineStairs() {
+        Scene scene = EMPTY;
+        for (int place = 0; place <= 8; place++) {
+            scene = scene.then("addUnit", place / 3, place % 3, 1, 0);
+        }
+        return scene;
     }
 
     private static Scene almostPoorest() {

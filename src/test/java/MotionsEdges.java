@@ -301,6 +301,15 @@ final class MotionsEdges extends Edges {
         scene.tells(1, "motion", 0, 5).tells(0, "motion", 0, 6).tells(3, "motion", 0, 7).tells(4, "motion", 0, 8);
     }
 
+    /** "of whom the unit with the lowest number that votes": a lower one that is silent does not speak. */
+    static void promise21_motion_aSilentLowerUnitLeavesTheHeadToAHigherOne() {
+        Scene scene = withShares(3, 4, 5).then("setOwner", 1, 0).then("move", 0, 0, 0, 1);
+        scene.then("vote", 0, 1, -1).tells(0, "motion", 0, 5).tells(1, "motion", 0, 6).tells(0, "motion", 0, 7)
+                .tells(4, "motion", 0, 8);
+        scene.then("vote", 0, 1, 1).tells(1, "motion", 0, 5).tells(0, "motion", 0, 6).tells(4, "motion", 0, 7)
+                .tells(0, "motion", 0, 8);
+    }
+
     /** "Owners can change while a motion is open; its heads are counted by the owners of now." */
     static void promise21_motion_theHeadsOfAnOpenOneAreByTheOwnersOfNow() {
         Scene scene = withShares(1, 1, 1).then("move", 0, 0, 0, 1).then("vote", 0, 0, 1).then("vote", 0, 1, 1)
@@ -388,6 +397,11 @@ final class MotionsEdges extends Edges {
         voted(withShares(49, 51), 50, 1, 0).onlyTells(1, "lacking", 0);
         voted(withShares(1, 1), 0, 0, 0).tells(1, "lacking", 0);
         voted(withShares(1, 1), 0, 1, 0).tells(0, "lacking", 0);
+    }
+
+    static void promise23_lacking_0IfItCouldBeCarriedNow_alsoIfLowerUnitsAreSilent() {
+        Scene scene = withShares(1, 1, 2).then("move", 0, 0, 0, 1).then("vote", 0, 2, 1).tells(0, "lacking", 0);
+        scene.then("set", 1, 51).tells(1, "lacking", 0).then("set", 1, 76).tells(2, "lacking", 0);
     }
 
     /** "in ascending order": a greater unit behind a lesser one does not come first. */

@@ -55,6 +55,13 @@ final class ReasonsEdges extends Edges {
         ALMOST_ALL_PAID.refuses(5, "pay", 11, 100).refuses(5, "pay", 10, MOST);
     }
 
+    /** What was charged makes room on the accounts, but not in what was paid in all. */
+    static void terms_reasons_5OfPay_chargesMakeNoRoomInWhatWasPaid() {
+        Scene charged = ALMOST_ALL_PAID.then("book", 3, 0, 0, 1200, false);
+        charged.takes(-1, "pay", 11, 99).refuses(5, "pay", 11, 1);
+        charged.refuses(5, "pay", 11, 100);
+    }
+
     /** "an account would be below -99999999" */
     static void terms_reasons_5OfBook_anAccountOfMinus99999999IsTaken_aCentLessIsNot() {
         ALMOST_POOREST.takes(0, "book", 1, 0, 1, 38, false).tells(-99999999, "unit", 0, 6)

@@ -1,18 +1,9 @@
 /** Edges of the terms but for dividing and reasons: kinds, funds, costs, changes and the number of calls. */
 final class TermsEdges extends Edges {
-    private static final Scene NINE_STAIRS = nineStairs();
     private static final Scene WITH_FUND = withShares(1, 3).then("read", 0, 7).then("fund", 2, 100);
 
     /** Four changes; the fourth makes a motion. */
     private static final Scene FOUR_CHANGES = withShares(1, 2).then("fund", 0, 50).then("move", 0, 0, 1, 9);
-
-    private static Scene nineStairs() {
-        Scene scene = EMPTY;
-        for (int place = 0; place <= 8; place++) {
-            scene = scene.then("addUnit", place / 3, place % 3, 1, 0);
-        }
-        return scene;
-    }
 
     private static void placeFits(int kind, int place, int concerned) {
         NINE_STAIRS.takes(0, "book", kind, place, 0, 900, false).tells(place, "cost", 0, 1)
@@ -196,6 +187,9 @@ final class TermsEdges extends Edges {
         isOneChange("move", 0, 0, 0, 12);
         isOneChange("vote", 0, 1, 1);
         isOneChange("close", 0);
+        Scene toCarry = FOUR_CHANGES.then("set", 1, 0).then("vote", 0, 1, 1);
+        Scene carried = toCarry.takes(1, "close", 0).tells(6, "undo");
+        toCarry.sameAs(carried.then("undo"), "undo of a close that carries");
         Scene text = FOUR_CHANGES.books(3, "m:0=0.70f;a:1=0.01;e:2=3.00").tells(4, "undo");
         FOUR_CHANGES.sameAs(text.then("undo"), "undo of bookAll");
     }

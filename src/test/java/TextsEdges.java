@@ -45,36 +45,26 @@ final class TextsEdges extends Edges {
         READY.faults(1, "a0:0=1.00").faults(1, "e0:0=1.00").faults(1, "m0:0=1.00");
     }
 
-    private static Scene nineStairs() {
-        Scene scene = EMPTY;
-        for (int place = 0; place <= 8; place++) {
-            scene = scene.then("addUnit", place / 3, place % 3, 1, 0);
-        }
-        return scene;
-    }
-
     /** "h and a house": "digits for them that are too great are a fault" */
     static void promise25_bookAll_houses0And2AreTaken_house3IsAFault() {
-        Scene stairs = nineStairs();
         for (int house = 0; house <= 2; house++) {
-            stairs.books(1, "h" + house + ":0=1.00").tells(1, "cost", 0, 0).tells(house, "cost", 0, 1);
+            NINE_STAIRS.books(1, "h" + house + ":0=1.00").tells(1, "cost", 0, 0).tells(house, "cost", 0, 1);
         }
         for (int house = 3; house <= 9; house++) {
-            stairs.faults(1, "h" + house + ":0=1.00");
+            NINE_STAIRS.faults(1, "h" + house + ":0=1.00");
         }
-        stairs.faults(1, "h:0=1.00").faults(2, "h00:0=1.00");
+        NINE_STAIRS.faults(1, "h:0=1.00").faults(2, "h00:0=1.00");
     }
 
     /** "or s, a house and a stair" */
     static void promise25_bookAll_stairs00And22AreTaken_3IsAFaultInBothPlaces() {
-        Scene stairs = nineStairs();
         for (int place = 0; place <= 8; place++) {
-            stairs.books(1, "s" + place / 3 + place % 3 + ":0=1.00").tells(2, "cost", 0, 0).tells(place, "cost", 0, 1);
+            NINE_STAIRS.books(1, "s" + place / 3 + place % 3 + ":0=1.00").tells(2, "cost", 0, 0).tells(place, "cost", 0, 1);
         }
         for (int digit = 3; digit <= 9; digit++) {
-            stairs.faults(1, "s" + digit + "0:0=1.00").faults(2, "s0" + digit + ":0=1.00");
+            NINE_STAIRS.faults(1, "s" + digit + "0:0=1.00").faults(2, "s0" + digit + ":0=1.00");
         }
-        stairs.faults(1, "s:0=1.00").faults(2, "s0:0=1.00").faults(3, "s000:0=1.00");
+        NINE_STAIRS.faults(1, "s:0=1.00").faults(2, "s0:0=1.00").faults(3, "s000:0=1.00");
     }
 
     /** "then ':', a purpose" */
